@@ -816,12 +816,13 @@ public final class MonkMarbles {
 
         /** The garden that was kept so many changes after the oldest. */
         private Garden keptAt(int after) {
-            return kept[Math.floorMod(oldest + after, MOST)];
+            int place = oldest + after < MOST ? oldest + after : oldest + after - MOST;
+            return place >= 0 && place < MOST ? kept[place] : null;
         }
 
         void keep(Garden garden) {
             if (size == MOST) {
-                oldest = Math.floorMod(oldest + 1, MOST);
+                oldest = oldest + 1 < MOST ? oldest + 1 : 0;
                 size--;
             }
             Garden place = keptAt(size);
@@ -1009,20 +1010,16 @@ public final class MonkMarbles {
      * four for 2, up to 10. What was found for a crowd is kept, since many orders of scoops lead to the same one.
      */
     private static final class Trial {
-        /* There are 139 crowds of at most 10 marbles. */
-        private static final int PLACES = 509;
-        private static final int UNTRIED = 0;
-        private static final int LOST = 1;
-        private static final int WINNING = 2;
+        /* So many there are with at most 10 marbles. */
+        private static final int MOST_CROWDS = 139;
 
-        private final long[] crowds = new long[PLACES];
-        private final int[] ends = new int[PLACES];
+        private final long[] crowds = new long[MOST_CROWDS];
+        private final boolean[] isWinning = new boolean[MOST_CROWDS];
+        private int tried;
 
         /** Whether the monk at the turn wins a garden of at most 10 marbles. */
         boolean isWon(Garden garden) {
-            for (int place = 0; place < PLACES; place++) {
-                ends[place] = UNTRIED;
-            }
+            tried = 0;
             long crowd = 0;
             for (int pit = 0; pit < garden.pits(); pit++) {
                 crowd += oneOf(garden.marblesIn(pit));
@@ -1035,16 +1032,22 @@ public final class MonkMarbles {
             if (depth > MOST_TRIED) {
                 return false;
             }
-            int known = ends[placeOf(crowd)];
-            if (known != UNTRIED) {
-                return known == WINNING;
+            for (int place = 0; place < tried && place < MOST_CROWDS; place++) {
+                if (crowds[place] == crowd) {
+                    return isWinning[place];
+                }
             }
-            boolean isWinning = canWinByAny(garden, crowd, depth);
-            // looked for anew: the place may have been taken by a crowd that was tried meanwhile
-            int place = placeOf(crowd);
-            crowds[place] = crowd;
-            ends[place] = isWinning ? WINNING : LOST;
-            return isWinning;
+            boolean canWin = canWinByAny(garden, crowd, depth);
+            note(crowd, canWin);
+            return canWin;
+        }
+
+        private void note(long crowd, boolean canWin) {
+            if (tried >= 0 && tried < MOST_CROWDS) {
+                crowds[tried] = crowd;
+                isWinning[tried] = canWin;
+                tried++;
+            }
         }
 
         private boolean canWinByAny(Garden garden, long crowd, int depth) {
@@ -1068,15 +1071,6 @@ public final class MonkMarbles {
                 }
             }
             return false;
-        }
-
-        /** The place of a crowd, or a free one for it. */
-        private int placeOf(long crowd) {
-            int place = Math.floorMod(crowd, PLACES);
-            for (int step = 0; step < PLACES && ends[place] != UNTRIED && crowds[place] != crowd; step++) {
-                place = place + 1 < PLACES ? place + 1 : 0;
-            }
-            return place;
         }
 
         private static long oneOf(int size) {

@@ -295,6 +295,10 @@ public final class PromisesTest {
         is("pit", x.told(0), 1);
         is("taken", x.told(1), 1);
         is("left", x.told(2), 1);
+        MonkMarbles six = withDigits(0, 0, 0, 0, 0, 2);
+        six.pit(7);
+        is("6 of 7", six.told(0) * 100 + six.told(1) * 10 + six.told(2), 61);
+        is("6 of 7 by its place", six.scoopAt(0, 1) * 10 + six.scoopAt(0, 2), 61);
         fails("what 3", ARGUMENT, () -> x.told(3));
         fails("what -1", ARGUMENT, () -> x.told(-1));
         MonkMarbles even = with(4, 4);
@@ -316,6 +320,12 @@ public final class PromisesTest {
         is("11", x.wins(false), true);
         MonkMarbles ones = with(1, 1, 1, 1, 1, 1, 1, 1, 1, 1);
         is("ten pits of one", ones.wins(true), false);
+        MonkMarbles six = withDigits(0, 0, 0, 0, 0, 2);
+        six.pit(7);
+        is("6 of 7", six.wins(false), true);
+        is("6 of 7 again", six.wins(true), true);
+        six.digit(6, 1);
+        is("6 of 7 with a digit 1", six.wins(true), false);
         int[][] digits = {{7, 7, 7, 7, 7, 7}, {4, 0, 1, 3, 0, 7}, {3, 3, 3, 0, 0, 0}, {0, 0, 0, 0, 0, 0}, {0, 5, 0, 6, 2, 1}};
         for (int[] row : digits) {
             MonkMarbles y = withDigits(row);
@@ -577,6 +587,10 @@ public final class PromisesTest {
         is("the values", x.value(1, false), 1);
         fails("a text with an error refuses nothing", ARGUMENT, () -> run(x, "p30;p30;x"));
         is("the reason stays", x.refusal(false), 5);
+        MonkMarbles other = with(3);
+        is("a digit by a text", run(other, "c1=0"), 1);
+        is("the sum then", other.sum(), other.value(3, true));
+        is("the value then", other.value(1, false), 0);
         MonkMarbles many = new MonkMarbles();
         is("thirty orders", run(many, "n;n;n;n;n;n;n;n;n;n;n;n;n;n;n;n;n;n;n;n;n;n;n;n;n;n;n;n;n;n"), 30);
         is("thirty games", many.account(5), 30);
