@@ -1,106 +1,5 @@
-import java.util.NoSuchElementException;
-
 /** Tests each promise of the document by itself: ordinary inputs, the edges it names, and wrong inputs. */
-public final class PromisesTest {
-    private static final Class<IllegalArgumentException> ARGUMENT = IllegalArgumentException.class;
-    private static final Class<UnsupportedOperationException> REFUSED = UnsupportedOperationException.class;
-    private static final Class<IndexOutOfBoundsException> INDEX = IndexOutOfBoundsException.class;
-    private static final Class<NoSuchElementException> MISSING = NoSuchElementException.class;
-    private static final Class<IllegalStateException> STATE = IllegalStateException.class;
-    private static final Class<ArithmeticException> ARITHMETIC = ArithmeticException.class;
-
-    private static int promise;
-    private static int checks;
-    private static int wrong;
-
-    private interface Call {
-        void make();
-    }
-
-    private static void fail(String message) {
-        wrong++;
-        System.out.println("promise " + promise + ": " + message);
-    }
-
-    private static void is(String what, double got, double want) {
-        checks++;
-        if (got != want) {
-            fail(what + " is " + got + ", due is " + want);
-        }
-    }
-
-    private static void is(String what, boolean got, boolean want) {
-        is(what, got ? 1 : 0, want ? 1 : 0);
-    }
-
-    private static void is(String what, String got, String want) {
-        checks++;
-        if (!got.equals(want)) {
-            fail(what + " is " + got + ", due is " + want);
-        }
-    }
-
-    private static void fails(String what, Class<? extends RuntimeException> due, Call call) {
-        checks++;
-        try {
-            call.make();
-        } catch (RuntimeException thrown) {
-            if (thrown.getClass() != due) {
-                fail(what + " throws " + thrown + ", due is " + due);
-            }
-            return;
-        }
-        fail(what + " throws nothing, due is " + due);
-    }
-
-    private static void refused(MonkMarbles x, String what, int reason, int detail, Call call) {
-        fails(what, REFUSED, call);
-        is(what + " reason", x.refusal(false), reason);
-        is(what + " detail", x.refusal(true), detail);
-    }
-
-    private static MonkMarbles with(int... pits) {
-        MonkMarbles x = new MonkMarbles();
-        for (int pit : pits) {
-            x.pit(pit);
-        }
-        return x;
-    }
-
-    /** A garden with six digits; digits that are so already are let be. */
-    private static MonkMarbles withDigits(int... digits) {
-        MonkMarbles x = new MonkMarbles();
-        for (int take = 1; take <= 6; take++) {
-            if (x.digitOf(take) != digits[take - 1]) {
-                x.digit(take, digits[take - 1]);
-            }
-        }
-        return x;
-    }
-
-    private static String line(MonkMarbles x) {
-        return lineOf(x, x.line());
-    }
-
-    private static String lineOf(MonkMarbles x, int length) {
-        StringBuilder out = new StringBuilder();
-        for (int at = 0; at < length; at++) {
-            out.append(x.character(at));
-        }
-        return out.toString();
-    }
-
-    private static void type(MonkMarbles x, String text) {
-        for (char c : text.toCharArray()) {
-            x.append(c);
-        }
-    }
-
-    private static int run(MonkMarbles x, String text) {
-        type(x, text);
-        return x.run();
-    }
-
+public final class PromisesTest extends Checks {
     private static void errorAt(String text, int position) {
         MonkMarbles x = with(5);
         fails("run of " + text, ARGUMENT, () -> run(x, text));
@@ -826,16 +725,9 @@ public final class PromisesTest {
             PromisesTest::account, PromisesTest::isWell, PromisesTest::meanMarbles, PromisesTest::share,
             PromisesTest::undo, PromisesTest::save, PromisesTest::restore,
         };
-        for (promise = 1; promise <= promises.length; promise++) {
-            try {
-                promises[promise - 1].make();
-            } catch (RuntimeException thrown) {
-                fail("ended by " + thrown + " at " + thrown.getStackTrace()[0]);
-            }
+        for (int promise = 1; promise <= promises.length; promise++) {
+            test("promise " + promise, promises[promise - 1]);
         }
-        System.out.println(checks + " checks, " + wrong + " wrong");
-        if (wrong != 0) {
-            System.exit(1);
-        }
+        end();
     }
 }
