@@ -193,6 +193,19 @@ abstract class Checks {
         return withDigits(digits);
     }
 
+    static MonkMarbles withoutDigits() {
+        return withDigits(0, 0, 0, 0, 0, 0);
+    }
+
+    /** A garden with so many pits of one marble. */
+    static MonkMarbles ones(int pits) {
+        MonkMarbles x = new MonkMarbles();
+        for (int pit = 0; pit < pits; pit++) {
+            x.pit(1);
+        }
+        return x;
+    }
+
     static String line(MonkMarbles x) {
         return lineOf(x, x.line());
     }

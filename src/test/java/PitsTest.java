@@ -210,10 +210,7 @@ public final class PitsTest extends Checks {
             is("of 3", x.pitOf(1, 2), 1);
         });
         test("5: the last of forty pits", () -> {
-            MonkMarbles x = new MonkMarbles();
-            for (int pit = 0; pit < 40; pit++) {
-                x.pit(1);
-            }
+            MonkMarbles x = ones(40);
             is("marbles", x.pitOf(39, 0), 1);
             is("others", x.pitOf(39, 3), 1);
             fails("one behind it", INDEX, () -> x.pitOf(40, 0));
@@ -251,6 +248,27 @@ public final class PitsTest extends Checks {
             for (int place = 0; place < 3; place++) {
                 is("ranked(" + place + ")", x.ranked(place), place);
             }
+        });
+        test("6: one marble fewer is enough, wherever it stands", () -> {
+            MonkMarbles x = withoutDigits();
+            x.pit(3);
+            x.pit(2);
+            x.pit(4);
+            is("0", x.ranked(0), 1);
+            is("1", x.ranked(1), 0);
+            is("2", x.ranked(2), 2);
+        });
+        test("6: one more in value is enough, wherever it stands", () -> {
+            MonkMarbles x = with(2, 3, 1);
+            is("0", x.ranked(0), 1);
+            is("1", x.ranked(1), 0);
+            is("2", x.ranked(2), 2);
+        });
+        test("6: the first and the last of forty", () -> {
+            MonkMarbles x = ones(40);
+            is("first", x.ranked(0), 0);
+            is("last", x.ranked(39), 39);
+            fails("one behind it", MISSING, () -> x.ranked(40));
         });
         test("6: the rank is that of the digits as they are", () -> {
             MonkMarbles x = with(1, 2);

@@ -2,10 +2,6 @@
 public final class ScoopsTest extends Checks {
     private static final int[] ALL_SEVEN = {7, 7, 7, 7, 7, 7};
 
-    private static MonkMarbles withoutScoops() {
-        return withDigits(0, 0, 0, 0, 0, 0);
-    }
-
     /** A garden with a scoop made in it, so that a wrong state behind a refusal can be seen. */
     private static MonkMarbles played() {
         MonkMarbles x = with(6, 3);
@@ -169,7 +165,7 @@ public final class ScoopsTest extends Checks {
     }
 
     private static MonkMarbles stuck() {
-        MonkMarbles x = withoutScoops();
+        MonkMarbles x = withoutDigits();
         x.pit(30);
         x.pit(10);
         return x;
@@ -246,6 +242,19 @@ public final class ScoopsTest extends Checks {
                 isScoop(x, place, 0, due[place][0], due[place][1]);
             }
         });
+        test("10: the last of forty pits", () -> {
+            MonkMarbles x = ones(40);
+            isScoop(x, 39, 39, 1, 0);
+            fails("one behind it", MISSING, () -> x.scoopAt(40, 0));
+        });
+        test("10: the digits count as they are", () -> {
+            MonkMarbles x = with(3);
+            x.digit(1, 2);
+            isScoop(x, 0, 0, 1, 2);
+            isScoop(x, 1, 0, 2, 1);
+            x.digit(3, 1);
+            isScoop(x, 2, 0, 3, 0);
+        });
         test("10: a pit of which no scoop may be made is passed by", () -> {
             MonkMarbles x = withOnly(3, 1);
             x.pit(2);
@@ -273,6 +282,23 @@ public final class ScoopsTest extends Checks {
         test("11: that no scoop is told stands before what is not", () -> {
             stays("told(3)", MISSING, MonkMarbles::new, x -> x.told(3));
             stays("told(-1)", MISSING, () -> with(5, 5), x -> x.told(-1));
+        });
+        test("11: of the last of many pits", () -> {
+            is("of 39 alike the first", told(ones(39)), 100);
+            MonkMarbles y = ones(11);
+            y.pit(6);
+            // eleven of value 1 together: of 6, whose value is 3, 2 and 3 are left, of value 1 together
+            is("told", told(y), 11102);
+        });
+        test("11: the digits count as they are", () -> {
+            MonkMarbles x = with(3);
+            is("at first", told(x), 101);
+            x.digit(1, 2);
+            // the values of 1 and 2 are 0 and 1 then, so that 1 must be left
+            is("with another digit", told(x), 201);
+            x.digit(3, 1);
+            x.digit(2, 0);
+            is("with a third", told(x), 300);
         });
         test("11: with forty marbles, of the last pit", () -> {
             MonkMarbles x = with(4, 4, 1, 1, 30);
@@ -325,7 +351,7 @@ public final class ScoopsTest extends Checks {
             }
         });
         test("12: the monk at the turn does not win if no scoop may be made", () -> {
-            MonkMarbles x = withoutScoops();
+            MonkMarbles x = withoutDigits();
             x.pit(10);
             is("by values", x.wins(false), false);
             is("by trying", x.wins(true), false);
@@ -338,6 +364,18 @@ public final class ScoopsTest extends Checks {
             x.scoop(0, 2, 0);
             is("by values then", x.wins(false), true);
             is("by trying then", x.wins(true), true);
+        });
+        test("12: trying takes up to 6, in each way", () -> {
+            for (int digit = 1; digit <= 4; digit *= 2) {
+                MonkMarbles x = withOnly(6, digit);
+                // all of 6, or others of 7 that stay, or others of 8 that are split
+                int marbles = digit == 1 ? 6 : digit == 2 ? 7 : 8;
+                x.pit(marbles - 1);
+                is("one marble fewer", x.wins(true), false);
+                x.undo();
+                x.pit(marbles);
+                is("so many", x.wins(true), true);
+            }
         });
         test("12: trying counts with the digits as they are", () -> {
             MonkMarbles x = with(3, 2);

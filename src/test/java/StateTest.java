@@ -1,15 +1,5 @@
 /** Tests the edges of the promises 29 to 35: accounts, shares, undo and the snapshot. */
 public final class StateTest extends Checks {
-    private static final int[] NO_DIGITS = {0, 0, 0, 0, 0, 0};
-
-    private static MonkMarbles ones(int pits) {
-        MonkMarbles x = new MonkMarbles();
-        for (int pit = 0; pit < pits; pit++) {
-            x.pit(1);
-        }
-        return x;
-    }
-
     /** A garden in which each of the numbers that changes can change is another than in a new one. */
     private static MonkMarbles lived() {
         MonkMarbles x = new MonkMarbles();
@@ -71,7 +61,7 @@ public final class StateTest extends Checks {
             is("in the next game", x.account(3), 4);
         });
         test("29: 4 for the marbles that lay in pits as a next game began", () -> {
-            MonkMarbles x = withDigits(NO_DIGITS);
+            MonkMarbles x = withoutDigits();
             x.next();
             is("none", x.account(4), 0);
             x.pit(30);
@@ -106,7 +96,7 @@ public final class StateTest extends Checks {
         });
         test("29: 7 for the greatest value of a number of marbles, in a pit or not", () -> {
             is("of 27", with(1).account(7), 8);
-            is("of none", withDigits(NO_DIGITS).account(7), 0);
+            is("of none", withoutDigits().account(7), 0);
             is("of 30 alone", withDigits(1, 6, 0, 0, 0, 0).account(7), 5);
             is("of 1 alone", withOnly(1, 1).account(7), 1);
             is("of 29 and great", withDigits(7, 3, 4, 7, 6, 4).account(7), 25);
@@ -149,9 +139,14 @@ public final class StateTest extends Checks {
             MonkMarbles x = with(5, 3);
             x.scoop(0, 1, 2);
             is("taken", x.isWell(), true);
+            x.play();
+            is("told", x.isWell(), true);
+            MonkMarbles y = with(5, 3);
+            y.scoop(0, 2, 3);
+            is("2 taken", y.isWell(), true);
             run(x, "c1=0;c2=0;n");
             is("left lying", x.isWell(), true);
-            is("lying", x.account(4), 7);
+            is("lying", x.account(4), 6);
         });
         test("30: all is well behind undo and restore", () -> {
             MonkMarbles x = with(5, 3);
@@ -217,6 +212,12 @@ public final class StateTest extends Checks {
         test("32: it is divided as floats", () -> {
             MonkMarbles x = with(9);
             run(x, "s0-1;s0-1;s0-1");
+            is("2 of 3", x.share(0), 2.0f / 3.0f);
+            is("1 of 3", x.share(1), 1.0f / 3.0f);
+        });
+        test("32: scoops are counted, not the marbles taken", () -> {
+            MonkMarbles x = with(9);
+            run(x, "s0-2;s0-1;s0-2");
             is("2 of 3", x.share(0), 2.0f / 3.0f);
             is("1 of 3", x.share(1), 1.0f / 3.0f);
         });
@@ -300,6 +301,14 @@ public final class StateTest extends Checks {
             z.next();
             z.undo();
             is("behind undo of next", stateOf(z), over);
+        });
+        test("33: a scoop that was undone wins no game", () -> {
+            MonkMarbles x = with(2);
+            x.scoop(0, 1, 1);
+            x.undo();
+            run(x, "c1=0;c2=0");
+            is("the winner", x.next(), -1);
+            is("won by 0", x.monkOf(0, 2), 0);
         });
         test("33: the snapshot is not undone", () -> {
             MonkMarbles x = with(5);

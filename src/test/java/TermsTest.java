@@ -48,10 +48,7 @@ public final class TermsTest extends Checks {
             fails("the pit that is gone", INDEX, () -> x.pitOf(0, 0));
         });
         test("of forty pits the first is gone, and those behind it move up", () -> {
-            MonkMarbles x = new MonkMarbles();
-            for (int pit = 0; pit < 40; pit++) {
-                x.pit(1);
-            }
+            MonkMarbles x = ones(40);
             is("pits", x.scoop(0, 1, 0), 39);
             is("the last", x.pitOf(38, 0), 1);
             fails("one behind it", INDEX, () -> x.pitOf(39, 0));

@@ -7,10 +7,6 @@ public final class ValuesTest extends Checks {
         0, 1, 2, 3, 1, 4, 3, 2, 1, 4, 2, 6, 4, 1, 2, 7, 1, 4, 3, 2, 1, 4, 6, 7, 4, 1, 2, 8, 5, 4, 7,
     };
 
-    private static MonkMarbles withoutScoops() {
-        return withDigits(0, 0, 0, 0, 0, 0);
-    }
-
     private static void value() {
         test("16: the marbles are out of range", () -> {
             for (int marbles : OUT_OF_RANGE) {
@@ -50,7 +46,7 @@ public final class ValuesTest extends Checks {
             is("value(4) again", x.value(4, true), 0);
         });
         test("16: all values are 0 if nothing may be taken", () -> {
-            MonkMarbles x = withoutScoops();
+            MonkMarbles x = withoutDigits();
             for (int marbles = 0; marbles <= 30; marbles++) {
                 is("value(" + marbles + ")", x.value(marbles, false), 0);
                 is("value(" + marbles + ") again", x.value(marbles, true), 0);
@@ -115,7 +111,7 @@ public final class ValuesTest extends Checks {
             MonkMarbles x = new MonkMarbles();
             is("lists(1, 0)", x.lists(1, 0), true);
             is("lists(1, 1)", x.lists(1, 1), false);
-            is("without digits", withoutScoops().lists(1, 0), false);
+            is("without digits", withoutDigits().lists(1, 0), false);
         });
         test("17: a list can have values behind one that it does not have", () -> {
             MonkMarbles x = new MonkMarbles();
@@ -147,7 +143,7 @@ public final class ValuesTest extends Checks {
             is("listed(3)", y.listed(3), 1);
         });
         test("18: none are listed if nothing may be taken", () -> {
-            is("listed(30)", withoutScoops().listed(30), 0);
+            is("listed(30)", withoutDigits().listed(30), 0);
             is("listed(2) with 3 to take", withOnly(3, 7).listed(2), 0);
             is("listed(3) with 3 to take", withOnly(3, 7).listed(3), 1);
         });
@@ -178,10 +174,7 @@ public final class ValuesTest extends Checks {
             is("of 3, 3 and 3", with(3, 3, 3).sum(), 3);
         });
         test("19: of forty pits", () -> {
-            MonkMarbles x = new MonkMarbles();
-            for (int pit = 0; pit < 39; pit++) {
-                x.pit(1);
-            }
+            MonkMarbles x = ones(39);
             is("of 39", x.sum(), 1);
             x.pit(1);
             is("of 40", x.sum(), 0);
@@ -191,12 +184,12 @@ public final class ValuesTest extends Checks {
     private static void period() {
         test("20: the beginning is out of range", () -> {
             for (int from : new int[] {-1, 30, 31, LEAST, MOST}) {
-                stays("period(" + from + ")", ARGUMENT, ValuesTest::withoutScoops, x -> x.period(from));
+                stays("period(" + from + ")", ARGUMENT, ValuesTest::withoutDigits, x -> x.period(from));
             }
         });
         test("20: 0 and 29 are the ends of the range", () -> {
-            is("period(0)", withoutScoops().period(0), 1);
-            is("period(29)", withoutScoops().period(29), 1);
+            is("period(0)", withoutDigits().period(0), 1);
+            is("period(29)", withoutDigits().period(29), 1);
         });
         test("20: the greatest period is 30 less the beginning", () -> {
             MonkMarbles x = withOnly(1, 4);
@@ -246,11 +239,11 @@ public final class ValuesTest extends Checks {
                 stays("least(" + value + ")", MISSING, MonkMarbles::new, x -> x.least(value));
             }
             stays("a value between", MISSING, () -> withDigits(7, 7, 7, 7, 7, 7), x -> x.least(18));
-            stays("without digits", MISSING, ValuesTest::withoutScoops, x -> x.least(1));
+            stays("without digits", MISSING, ValuesTest::withoutDigits, x -> x.least(1));
         });
         test("21: the value 0 is that of 0 marbles", () -> {
             is("least(0)", new MonkMarbles().least(0), 0);
-            is("without digits", withoutScoops().least(0), 0);
+            is("without digits", withoutDigits().least(0), 0);
         });
         test("21: a value that only 30 marbles have", () -> {
             MonkMarbles x = withDigits(1, 6, 0, 0, 0, 0);
